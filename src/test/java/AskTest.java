@@ -61,7 +61,8 @@ public final class AskTest {
     private static void oneWord(BootChain x, int place, int word) {
         boolean is = place >= 0 && place < 6 && word >= 0 && word < (place < 4 ? 16 : 3);
         if (is) {
-            Check.equal("flash " + place + " " + word, x.flash(place, word), 0x10000 * place + word + 1);
+            int due = 0x10000 * place + word + 1;
+            Check.equal("flash " + place + " " + word, x.flash(place, word), due);
         } else {
             Check.bad("flash " + place + " " + word, () -> x.flash(place, word));
             Check.bad("spoil " + place + " " + word, () -> x.spoil(place, word, 1));

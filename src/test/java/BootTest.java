@@ -192,7 +192,8 @@ public final class BootTest {
         int[] next = {0xEA, 0xE0, 0xA0, 0x00};
         if (words % 4 > 0) {
             Check.equal("sum of " + words, x.flash(place, 2), 0);
-            Check.equal("serial of " + words, x.flash(place, 0), words % 4 > 1 ? serial : serial - 2);
+            int due = words % 4 > 1 ? serial : serial - 2;
+            Check.equal("serial of " + words, x.flash(place, 0), due);
         }
         if (words % 4 > 2) {
             Check.equal("state of " + words, x.flash(place, 1), next[words / 4]);

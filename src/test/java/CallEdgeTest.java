@@ -1,4 +1,4 @@
-/** Promises 2, 3, 7 to 9 and 11 to 14, and the limit of calls: the last arguments that are taken. */
+/** Promises 2, 3, 8, 9, 13, 14 and the limit of calls: the last arguments that are taken. */
 public final class CallEdgeTest {
     private static final int LOW = Integer.MIN_VALUE;
     private static final int HIGH = Integer.MAX_VALUE;
@@ -164,7 +164,8 @@ public final class CallEdgeTest {
         }
         int[] due = Tools.hashOf(row);
         for (int word = 0; word < 8; word++) {
-            Check.equal("hash of " + words + " from " + first, x.hash(first, words, word), due[word]);
+            String what = "hash of " + words + " from " + first + ", " + word;
+            Check.equal(what, x.hash(first, words, word), due[word]);
         }
     }
 

@@ -25,7 +25,8 @@ public final class FaceTest {
 
     public static void main(String[] args) {
         int modifiers = BootChain.class.getModifiers();
-        Check.holds("public and final", Modifier.isPublic(modifiers) && Modifier.isFinal(modifiers));
+        Check.holds("public", Modifier.isPublic(modifiers));
+        Check.holds("final", Modifier.isFinal(modifiers));
         methods();
         for (Field field : BootChain.class.getDeclaredFields()) {
             Check.holds("private: " + field, Modifier.isPrivate(field.getModifiers()));

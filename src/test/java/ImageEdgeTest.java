@@ -12,6 +12,7 @@ public final class ImageEdgeTest {
             counter(slot);
         }
         countersOfTheTwoStages();
+        wordSevenOfAnUpdate();
         digestCoversSevenWords();
         Check.end();
     }
@@ -85,6 +86,24 @@ public final class ImageEdgeTest {
     private static void wordSeven(int slot) {
         for (int bit = 0; bit < 32; bit++) {
             oneBit(slot, 7, bit);
+        }
+    }
+
+    /** An image that is made is whole, whatever the slots held that a boot has looked at. */
+    private static void wordSevenOfAnUpdate() {
+        for (int stage = 0; stage < 2; stage++) {
+            BootChain x = stage == 0 ? new BootChain() : without(2);
+            for (int word = 0; word < 16; word++) {
+                x.spoil(2 * stage, word, -1);
+                x.spoil(2 * stage + 1, word, -1);
+            }
+            Check.equal("boot", x.boot(), stage + 1);
+            int slot = x.update(stage, 3, 0);
+            int[] measured = Tools.measured(stage, 3, 0);
+            int[] due = Tools.join(measured, new int[1], Tools.sealOf(stage, measured));
+            for (int word = 0; word < 16; word++) {
+                Check.equal("word " + word + " of an update", x.flash(slot, word), due[word]);
+            }
         }
     }
 

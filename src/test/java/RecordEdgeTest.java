@@ -110,7 +110,8 @@ public final class RecordEdgeTest {
         for (int i = 0; i < ascending.length; i++) {
             for (int k = 0; k < ascending.length; k++) {
                 BootChain x = with(ascending[i], ascending[k]);
-                Check.equal(ascending[i] + " and " + ascending[k], x.state(), k > i ? SECOND : FIRST);
+                String what = ascending[i] + " and " + ascending[k];
+                Check.equal(what, x.state(), k > i ? SECOND : FIRST);
             }
         }
     }
@@ -179,7 +180,8 @@ public final class RecordEdgeTest {
                 Check.equal("update", x.update(0, 1, 0), 0);
             }
             for (int word = 0; word < 3; word++) {
-                Check.equal(words + " words of a record: " + word, x.flash(5, word), due[words][word]);
+                String what = words + " words of a record: word " + word;
+                Check.equal(what, x.flash(5, word), due[words][word]);
             }
             Check.equal(words + " words of a record", x.state(), words < 4 ? FIRST : 0x2F);
         }
@@ -204,12 +206,13 @@ public final class RecordEdgeTest {
             BootChain x = new BootChain();
             Tools.putRecord(x, 5, 1, 1 << bit);
             x.update(0, 1, 0);
-            Check.equal("loader over bit " + bit, x.state(), bit < 1 || bit > 3 ? 1 << bit | 14 : 14);
+            int loader = bit < 1 || bit > 3 ? 1 << bit | 0x0E : 0x0E;
+            Check.equal("loader over bit " + bit, x.state(), loader);
             BootChain y = new BootChain();
             Tools.putRecord(y, 5, 1, 1 << bit);
             y.update(1, 1, 0);
-            int due = bit < 5 || bit > 7 ? 1 << bit | 0xE0 : 0xE0;
-            Check.equal("kernel over bit " + bit, y.state(), due);
+            int kernel = bit < 5 || bit > 7 ? 1 << bit | 0xE0 : 0xE0;
+            Check.equal("kernel over bit " + bit, y.state(), kernel);
         }
     }
 }

@@ -111,7 +111,8 @@ public final class RefusedTest {
     }
 
     /** Of a refused update the document says that the draft is empty afterwards all the same. */
-    private static void badUpdate(String what, Supplier<BootChain> maker, Consumer<BootChain> call) {
+    private static void badUpdate(
+            String what, Supplier<BootChain> maker, Consumer<BootChain> call) {
         refused(what, maker, call, 0);
     }
 
