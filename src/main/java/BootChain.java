@@ -227,7 +227,7 @@ public final class BootChain {
         return store.writeRecord(StateBits.withoutTrial(state, stage)) ? NONE : POWER_LOST;
     }
 
-    /** The active slot, or else the other one, of which no record is made; NONE if neither is good. */
+    /** The active slot, or else the other, of which no record is made; NONE if neither is good. */
     private int slotWithoutTrial(int stage) {
         int state = store.heldState();
         int active = StateBits.activeSlot(state, stage);

@@ -6,6 +6,7 @@ public final class RecordEdgeTest {
     public static void main(String[] args) {
         noneIsValidAtFirst();
         noneIsValidAnyMore();
+        slotsAreNoRecords();
         serialFromZeroOn();
         anotherSumIsInvalid();
         sumModulo();
@@ -49,6 +50,25 @@ public final class RecordEdgeTest {
         Check.equal("the slot is that of state 0", x.update(0, 1, 0), 1);
         Tools.record("record 0", x, 4, 1, 0x0E);
         Check.equal("record 1 is left", x.flash(5, 0), 71);
+    }
+
+    /** Whatever the slots hold: without a valid record the state is 0, and the serial too. */
+    private static void slotsAreNoRecords() {
+        BootChain x = new BootChain();
+        for (int slot = 0; slot < 4; slot++) {
+            Tools.put(x, slot, 13, 6);
+            Tools.put(x, slot, 14, 0x33);
+            Tools.put(x, slot, 15, 31 * 6 + 0x33 + 12345);
+            for (int word = 0; word < 13; word++) {
+                x.spoil(slot, word, -1);
+            }
+        }
+        Check.equal("full slots, no record", x.state(), 0);
+        Check.equal("slot of the loader", x.update(0, 1, 0), 1);
+        Tools.record("full slots, the first record", x, 4, 1, 0x0E);
+        x.spoil(4, 2, 1);
+        Check.equal("slot of the kernel", x.update(1, 1, 0), 3);
+        Tools.record("full slots, once more", x, 4, 1, 0xE0);
     }
 
     /** A valid record with serial 0 holds; it is not the same as none. */
